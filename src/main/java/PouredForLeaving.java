@@ -50,6 +50,7 @@ public final class PouredForLeaving {
     private static final int MOST_ODDS = 20;
     private static final int MOST_LOTS = 20;
     private static final int LOT_MINUTES = 60;
+    private static final int WITHOUT_SIGN = 0x7fffffff;
     private static final int FAR = 99;
     private static final int NEVER = 100;
     private static final int LATEST_RISE = 30;
@@ -901,8 +902,9 @@ public final class PouredForLeaving {
         int firstGone() {
             then.copyFrom(now);
             for (int n = 0; n <= FAR; n++) {
-                int gone = then.setOf(GONE);
-                if (gone != 0) return Integer.numberOfTrailingZeros(gone);
+                for (int guest = 0; guest < then.guests; guest++) {
+                    if (then.state[guest] == GONE) return guest;
+                }
                 then.passOne();
             }
             return NONE;
@@ -972,15 +974,15 @@ public final class PouredForLeaving {
 
         int longestStanding(int n, int what) {
             int longest = NONE;
-            int most = NONE;
+            int most = 0;
             for (int guest = 0; guest < now.guests; guest++) {
                 int standing = minutesStoodBy(guest, n);
-                if (standing > 0 && standing > most) {
+                if (standing > most) {
                     most = standing;
                     longest = guest;
                 }
             }
-            return what == 0 ? longest : most;
+            return what == 0 || longest == NONE ? longest : most;
         }
 
         private int minutesStoodBy(int guest, int n) {
@@ -1261,7 +1263,7 @@ public final class PouredForLeaving {
 
         int leastThirst(int n) {
             int best = NONE;
-            int least = Integer.MAX_VALUE;
+            int least = MOST_GUESTS * MOST_THIRST + 1;
             for (int cups = Math.max(now.howMany(DRINKS), 1); cups <= MOST_CUPS; cups++) {
                 for (int rule = 0; rule < RULES; rule++) {
                     then.copyFrom(now);
@@ -1370,7 +1372,7 @@ public final class PouredForLeaving {
                 then.copyFrom(now);
                 for (int guest = 0; guest < then.guests; guest++) {
                     seed = seed * 1103515245 + 12345;
-                    then.thirst[guest] = ((seed & Integer.MAX_VALUE) >> 16) % (MOST_THIRST + 1);
+                    then.thirst[guest] = ((seed & WITHOUT_SIGN) / 65536) % (MOST_THIRST + 1);
                 }
                 then.pass(LOT_MINUTES);
                 gone += then.howMany(GONE);

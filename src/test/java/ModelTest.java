@@ -17,6 +17,12 @@ public final class ModelTest {
     private static final String[] RARE = {"g3706;g3605;g4909;g2205;u1;", "g3010;g3307;g3205;c2;", "g0010;g3109;g3701;g1007;",
         "g3111;g1711;g0200;", "g3502;g3709;g0403;g3609;", "g0020;g3930;m01;", "g0020;g3930;g2330;"};
 
+    /** Houses in which something comes in the very last MINUTE that is looked at, 99 or 30. */
+    private static final String[] LATE = {"g0006;g3930;", "g0008;g3930;", "g1719;g1129;g3201;g3923;", "g3927;g3113;g4028;u1;",
+        "g4722;g3729;g3808;u3;", "g3910;g0923;", "g3927;g3814;g4923;g1300;g3705;u3;c2;", "g3722;g3711;g3412;g3929;g0822;u1;",
+        "g3930;g3705;g3911;g5906;u3;", "g3830;g3923;g3726;g0820;u3;", "g5704;g3728;g4226;g3921;g3111;u3;",
+        "g5804;g5818;g3923;u2;", "g3800;g3704;g3908;g3901;g3908;", "g3611;g2119;g3927;g4728;", "g4028;g3927;g3928;g3909;u2;c2;"};
+
     private final Random random;
     private final PouredForLeaving program = new PouredForLeaving();
     private final Model model = new Model();
@@ -32,6 +38,13 @@ public final class ModelTest {
             ModelTest test = new ModelTest(seed);
             if (!test.run()) {
                 System.out.println("ModelTest, seed " + seed + ": " + String.join(", ", test.calls));
+                System.exit(1);
+            }
+        }
+        for (String house : LATE) {
+            ModelTest test = new ModelTest(0);
+            if (!test.call("house", test.tell(house)) || !test.askAll()) {
+                System.out.println("ModelTest, " + house + ": " + String.join(", ", test.calls));
                 System.exit(1);
             }
         }
@@ -69,6 +82,23 @@ public final class ModelTest {
             }
         }
         return true;
+    }
+
+    /** Every question once of each GUEST, as far ahead as can be asked. */
+    private boolean askAll() throws Exception {
+        boolean fine = sets() && call("stuck") && call("cupsWanted", 99) && call("cupsWanted", 98) && call("hostess", 99)
+            && call("dry", 99);
+        for (int what = 0; what < 6; what++) fine &= call("all", 98, what) && call("all", 99, what);
+        for (int i = 0; i < 32; i++) fine &= call("served", i) && call("leaver", i);
+        for (int what = 0; what < 2; what++) {
+            fine &= call("gone", what) && call("thirsty", what) && call("bestRule", what) && call("caller", what)
+                && call("mean", what) && call("longest", 99, what) && call("waited", 99, what) && call("crowd", 99, what);
+            for (int g = 0; g < model.now.guests.size(); g++) {
+                fine &= call("leaves", g) && call("tastes", g) && call("garden", g) && call("kept", g)
+                    && call("bestRise", g, what) && call("look", g, what) && call("bestOf", g, what);
+            }
+        }
+        return fine;
     }
 
     private boolean one(String name, int many, boolean wild) throws Exception {

@@ -401,6 +401,8 @@ public final class PromiseTest {
                 due("behind HAD", x.behind(g, n, 2), had[n][g]);
             }
             for (int s = 0; s < 4; s++) due("all STATE " + s, x.all(n, s), many[s]);
+            PouredForLeaving y = of(THREE + "m0" + (n + 1) + ";");
+            for (int s = 0; s < 4; s++) due("count STATE " + s, y.count(5 + s), many[s]);
             due("all POURED", x.all(n, 4), poured[n]);
             due("all THIRST", x.all(n, 5), thirst[n]);
         }
@@ -446,6 +448,14 @@ public final class PromiseTest {
         due("not within 99", of(AUNT_BEHIND).leaves(1), -9);
         due("not within 99, all", of(AUNT_BEHIND).gone(1), -9);
         due("within 99", of(AUNT_BEHIND + "m09;").leaves(1), 12 + 30 + 4 * 16 - 9);
+        due("GONE behind 99", of("g0006;g3930;").leaves(1), 99);
+        due("all GONE behind 99", of("g0006;g3930;").gone(1), 99);
+        due("leaver behind 99", of("g0006;g3930;").leaver(1), 1);
+        due("GONE behind 100", of("g0008;g3930;").leaves(1), -9);
+        due("all GONE behind 100", of("g0008;g3930;").gone(1), -9);
+        due("leaver behind 100", of("g0008;g3930;").leaver(1), -9);
+        due("STAYING behind 99", of("g0008;g3930;").thirsty(1), 2);
+        due("STAYING behind 99 none", of("g0006;g3930;").thirsty(1), 0);
         refused(x, "leaves(3)", () -> x.leaves(3), -1);
         refused(x, "leaves(-1)", () -> x.leaves(-1), -1);
         refused(x, "tastes(3)", () -> x.tastes(3), -1);
@@ -741,6 +751,7 @@ public final class PromiseTest {
         refused(x, "waited(-1,2)", () -> x.waited(-1, 2), -4);
         refused(x, "waited(100,2)", () -> x.waited(100, 2), -6);
         refused(x, "waited(0,-1)", () -> x.waited(0, -1), -2);
+        refused(x, "waited(0,2)", () -> x.waited(0, 2), -2);
         refused(x, "dry(-1)", () -> x.dry(-1), -4);
         refused(x, "dry(100)", () -> x.dry(100), -6);
     }
@@ -767,6 +778,7 @@ public final class PromiseTest {
         due("MEAN in lowest terms", of(TWO + "g5000;").mean(1), 1);
         due("MEAN of none", of("g5000;").mean(0), 0);
         due("MEAN of none", of("g5000;").mean(1), 1);
+        due("MEAN of one alone", of(ONE).mean(0), 4);
         due("MEAN of one GONE", of("g5000;o0;").mean(1), 1);
         refusedLong(x, "mean(2)", () -> x.mean(2), -2);
         refusedLong(x, "mean(-1)", () -> x.mean(-1), -2);
@@ -784,6 +796,7 @@ public final class PromiseTest {
         }
         due("some are GONE, some not", gone > 3 && gone < 17 ? 1 : 0, 1);
         due("POURED", of(TWO + "c5;").lots(7, -1, 1), 14);
+        due("and with a seed below 0", of(ONE + "g5000;").lots(1, -123456789, 1), 1);
         due("GONE now counted", of(TWO + "c5;o0;").lots(7, 99, 0), 14);
         due("POURED", of(TWO + "c5;o0;").lots(7, 99, 1), 7);
         due("cups as they were", of(TWO + "m05;g0000;").lots(3, 1, 1), 3);
