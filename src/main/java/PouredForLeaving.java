@@ -974,7 +974,8 @@ public final class PouredForLeaving {
 
         int longestStanding(int n, int what) {
             int longest = NONE;
-            int most = 0;
+            // Below all that one can have STOOD: who STOOD 0 is the longest where nobody STOOD more.
+            int most = NONE;
             for (int guest = 0; guest < now.guests; guest++) {
                 int standing = minutesStoodBy(guest, n);
                 if (standing > most) {
@@ -982,7 +983,7 @@ public final class PouredForLeaving {
                     longest = guest;
                 }
             }
-            return what == 0 || longest == NONE ? longest : most;
+            return what == 0 ? longest : most;
         }
 
         private int minutesStoodBy(int guest, int n) {

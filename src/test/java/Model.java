@@ -646,18 +646,11 @@ final class Model {
     int longest(int n, int what) {
         if (far(n) != 0) return no(far(n));
         if (other(what, 1)) return no(-2);
+        if (now.guests.isEmpty()) return -9;
         List<World> film = now.film(n).subList(1, n + 1);
-        int best = -9;
-        int most = 0;
-        for (int i = 0; i < now.guests.size(); i++) {
-            int g = i;
-            int many = (int) film.stream().filter(w -> w.guests.get(g).is("STANDS")).count();
-            if (many > most) {
-                most = many;
-                best = g;
-            }
-        }
-        return best < 0 ? -9 : what == 0 ? best : most;
+        ToIntFunction<Integer> stood = g -> (int) film.stream().filter(w -> w.guests.get(g).is("STANDS")).count();
+        int best = leastBy(0, now.guests.size() - 1, g -> -stood.applyAsInt(g));
+        return what == 0 ? best : stood.applyAsInt(best);
     }
 
     int leaver(int i) {

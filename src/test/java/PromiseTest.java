@@ -734,9 +734,15 @@ public final class PromiseTest {
         due("LONGEST how many", x.longest(99, 1), 4);
         due("LONGEST of several", x.longest(2, 0), 1);
         due("LONGEST of several, how many", x.longest(2, 1), 2);
-        due("LONGEST of none", x.longest(0, 0), -9);
-        due("LONGEST of none, how many", x.longest(0, 1), -9);
-        due("LONGEST now not counted", of(ONE + "r0;").longest(99, 0), -9);
+        due("LONGEST of 0 MINUTES", x.longest(0, 0), 0);
+        due("LONGEST of 0 MINUTES, how many", x.longest(0, 1), 0);
+        due("LONGEST, the most is 0", of(ONE + "g5000;").longest(99, 0), 0);
+        due("LONGEST, the most is 0, how many", of(ONE + "g5000;").longest(99, 1), 0);
+        due("LONGEST behind one who STOOD 0", of("g5000;" + TWO).longest(99, 0), 2);
+        due("LONGEST of all GONE", of(TWO + "o0;o1;").longest(99, 0), 0);
+        due("LONGEST without GUESTS", new PouredForLeaving().longest(0, 0), -9);
+        due("LONGEST without GUESTS, how many", new PouredForLeaving().longest(99, 1), -9);
+        due("LONGEST now not counted", of(ONE + "r0;").longest(99, 1), 0);
         due("WAITED", x.waited(99, 0), 4 + 2);
         due("WAITED", x.waited(1, 0), 2);
         due("WAITED", x.waited(0, 0), 0);
