@@ -16,7 +16,7 @@ import java.util.regex.Pattern;
  */
 public final class BoundaryTest {
     private static final List<Class<?>> TESTS = List.of(GuestEdges.class, HouseEdges.class, MindEdges.class,
-        OtherwiseEdges.class, LaterEdges.class, RefusalEdges.class, RefusalEdgesOn.class, OrderEdges.class);
+        OtherwiseEdges.class, LaterEdges.class, RefusalEdgesTo23.class, RefusalEdgesFrom24.class, OrderEdges.class);
 
     /** Words that tell of a boundary: a range, a refusal or -9, the most and the least, what is with none. */
     private static final Pattern BOUNDARY = Pattern.compile("\\.\\. ?\\d|-\\d|at most|at least|at first|of several|never"
@@ -93,16 +93,16 @@ public final class BoundaryTest {
         Arrays.fill(quoted, place, place + says.value().length(), true);
     }
 
-    /** Where the section of a promise starts; of 0 the Terms, of one more than the last what is not promised. */
+    /** Where the section of a promise starts; of 0 all ahead of them, of one more than the last what is not promised. */
     private int startOf(int promise) {
-        String heading = promise == 0 ? "## Terms" : "## Promise " + promise + ":";
-        int place = document.indexOf(heading);
+        if (promise == 0) return 0;
+        int place = document.indexOf("## Promise " + promise + ":");
         return place >= 0 ? place : document.indexOf("## Not promised");
     }
 
     private void everyBoundaryIsQuoted() {
         Matcher m = BOUNDARY.matcher(document);
-        m.region(startOf(0), startOf(Integer.MAX_VALUE));
+        m.region(document.indexOf("## Terms"), startOf(Integer.MAX_VALUE));
         while (m.find()) {
             if (quoted[m.start()]) continue;
             int from = Math.max(document.lastIndexOf('\n', m.start()) + 1, m.start() - 60);

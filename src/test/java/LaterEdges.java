@@ -10,6 +10,19 @@ final class LaterEdges {
     private LaterEdges() {
     }
 
+    @Says("An object is used for at most 512 calls after it has been made")
+    static void callsAtMost() {
+        PouredForLeaving x = new PouredForLeaving();
+        for (int i = 0; i < 96; i++) x.feed('x');
+        for (int i = 0; i < 12; i++) x.row(99);
+        for (int i = 0; i < 6; i++) x.guest(3, 9, 30);
+        for (int i = 0; i < 397; i++) x.rule(i % 4);
+        Edge.due("call 512", x.behind(5, 99, 0), 3);
+        PouredForLeaving y = new PouredForLeaving();
+        for (int i = 0; i < 511; i++) y.back();
+        Edge.due("call 512", y.count(13), 511);
+    }
+
     @Says("What rises(), slips(), cups(), rule() changed can be TAKEN BACK")
     static void whatCanBeTakenBack() {
         PouredForLeaving x = Edge.of(Edge.MIXED);
@@ -21,6 +34,14 @@ final class LaterEdges {
         for (int left = 3; left >= 0; left--) Edge.due("back()", x.back(), left);
         Edge.due("all is as it was", Arrays.equals(seen, Edge.all(x)) ? 1 : 0, 1);
         Edge.due("back()", x.back(), -3);
+        // RULE and CUPS are what they were, whatever that is.
+        PouredForLeaving z = Edge.of("u2;c4;");
+        z.rule(3);
+        z.cups(5);
+        z.rule(1);
+        for (int left = 2; left >= 0; left--) Edge.due("back()", z.back(), left);
+        Edge.due("RULE", z.count(3), 2);
+        Edge.due("CUPS", z.count(2), 4);
         // With STOOD as it was, too.
         PouredForLeaving y = Edge.of("g0003;g1905;m09;");
         y.rises(1);
@@ -64,10 +85,24 @@ final class LaterEdges {
             Edge.due("CUPS", x.count(2), cups[i]);
         }
         Edge.due("a ninth back()", x.back(), -3);
+        eightOfGuests();
         Edge.due("CUPS", x.count(2), 2);
         x.cups(3);
         Edge.due("back() of one more", x.back(), 0);
         Edge.due("CUPS", x.count(2), 2);
+    }
+
+    private static void eightOfGuests() {
+        PouredForLeaving x = Edge.of(Edge.times(6, "g0000;"));
+        for (int guest = 0; guest < 6; guest++) x.rises(guest);
+        for (int guest = 0; guest < 3; guest++) x.slips(guest);
+        Edge.due("of 9 risings and slips", x.count(17), 8);
+        for (int i = 7; i >= 0; i--) {
+            Edge.due("back()", x.back(), i);
+            int guest = i >= 5 ? i - 5 : i + 1;
+            Edge.due("STATE", Edge.state(x, guest), i >= 5 ? 1 : 0);
+        }
+        Edge.due("STATE of 0, who rose first", Edge.state(x, 0), 1);
     }
 
     @Says("guest(), minutes(), a HOUSE without FAULT, restore(), where they are not refused, leave none)")
@@ -113,6 +148,9 @@ final class LaterEdges {
         callerIs("g0003;", 4, 5);
         callerIs("g0005;", 4, 4);
         callerIs("u3;g0029;", 4, 3);
+        // His THIRST is 6 behind 1: by RULE 1 he is first if the other's is less.
+        callerIs("u1;g0004;", 4, 3);
+        callerIs("u1;g0005;", 4, 4);
         Edge.answers(Edge.times(6, "g5000;"), x -> x.caller(0), -3);
         Edge.answers(Edge.times(6, "g5000;") + "o0;", x -> x.caller(0), -3);
         Edge.answers("", x -> x.caller(0) + x.count(0), 4);
@@ -230,6 +268,7 @@ final class LaterEdges {
         Edge.answers("g0030;", x -> x.bestOf(0, 1), 3);
         Edge.answers("g2930;", x -> x.bestOf(0, 1), 22);
         Edge.answers("g2000;", x -> x.bestOf(0, 1), 13);
+        Edge.answers("g1930;g3905;", x -> x.bestOf(0, 1), 28);
         Edge.answers("g5000;", x -> x.bestOf(0, 1), -9);
         Edge.answers("g0030;o0;", x -> x.bestOf(0, 1), 0);
     }
@@ -305,6 +344,8 @@ final class LaterEdges {
         Edge.answers("u3;c5;", x -> x.hostess(0), 1);
         Edge.answers("u3;c5;", x -> x.hostess(99), 1);
         Edge.answers("u3;c5;" + Edge.TWO, x -> x.hostess(0), 1);
+        // THIRST of all can be 180.
+        Edge.answers("u3;" + Edge.times(6, "g5030;"), x -> x.hostess(99), 1);
         // Two DRINK now; five.
         Edge.answers("u3;c2;" + Edge.TWO + "m01;", x -> x.hostess(0), 2);
         Edge.answers("c5;" + Edge.times(5, "g0003;") + "m01;", x -> x.hostess(99), 5);

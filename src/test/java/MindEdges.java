@@ -1,9 +1,53 @@
+import java.util.ArrayList;
+import java.util.Arrays;
+import java.util.List;
+
 /** Boundary cases of what is looked at in mind: part II, to BEST RISE. */
 final class MindEdges {
+    /** All STATES; the sixth, an AUNT, STANDS, has STOOD 3 and HAD 1. */
+    private static final String FULL = "g0003;g1930;g2908;g5000;g1705;g3906;c2;m25;";
+    /** All SIT, and all will be GONE. */
+    private static final String ALL_SIT = "g0000;g1830;g2908;g4000;g1705;g3206;u1;";
     private static final String FIVE = Edge.times(5, "g0003;");
     private static final String SIX = Edge.times(6, "g0003;");
 
     private MindEdges() {
+    }
+
+    private static List<Edge.Call> questions() {
+        List<Edge.Call> asks = new ArrayList<>();
+        for (int guest = 0; guest < 6; guest++) {
+            int g = guest;
+            asks.addAll(List.of(x -> x.behind(g, 7, 0), x -> x.behind(g, 40, 1), x -> x.behind(g, 99, 2), x -> x.leaves(g),
+                x -> x.tastes(g), x -> x.bestRise(g, 1), x -> x.garden(g), x -> x.kept(g)));
+            asks.addAll(List.of(x -> x.who(g, 0), x -> x.who(g, 1), x -> x.who(g, 2), x -> x.look(g, 0), x -> x.look(g, 1),
+                x -> x.away(g, 6, 3, 0), x -> x.bestOf(g, 0), x -> x.bestOf(g, 1), x -> x.company(g, 4, 40)));
+        }
+        for (int what = 0; what < 2; what++) {
+            int w = what;
+            asks.addAll(List.of(x -> x.gone(w), x -> x.thirsty(w), x -> x.bestRule(w), x -> x.rising(w), x -> x.rest(w),
+                x -> x.crowd(30, w), x -> x.longest(30, w), x -> x.waited(30, w), x -> x.mean(w), x -> x.lots(3, 7, w)));
+            asks.addAll(List.of(x -> x.all(30, w + 4), x -> x.served(w), x -> x.leaver(w)));
+        }
+        asks.addAll(List.of(x -> x.cupsWanted(70), x -> x.two(1, 3), x -> x.stuck(), x -> x.dry(30), x -> x.hostess(20)));
+        return asks;
+    }
+
+    @Says("II. In mind")
+    static void nothingComesOfQuestions() {
+        nothingComesOfQuestionsBehind(FULL);
+        nothingComesOfQuestionsBehind(ALL_SIT);
+    }
+
+    private static void nothingComesOfQuestionsBehind(String house) {
+        List<Edge.Call> asks = questions();
+        long[] first = new long[asks.size()];
+        for (int i = 0; i < first.length; i++) first[i] = asks.get(i).on(Edge.of(house));
+        PouredForLeaving x = Edge.of(house);
+        long[] seen = Edge.all(x);
+        for (int i = 0; i < first.length; i++) Edge.due("question " + i + ", asked later", asks.get(i).on(x), first[i]);
+        for (int i = first.length - 1; i >= 0; i--) Edge.due("question " + i + ", asked again", asks.get(i).on(x), first[i]);
+        Edge.due("all is as it was", Arrays.equals(seen, Edge.all(x)) ? 1 : 0, 1);
     }
 
     @Says("In mind, n MINUTES on (0 .. 99): STATE, THIRST, HAD of one")
@@ -129,6 +173,11 @@ final class MindEdges {
         Edge.answers(Edge.AUNT_AT_100, x -> x.thirsty(1), 2);
         Edge.answers(Edge.times(6, "g5000;"), x -> x.thirsty(1), 63);
         Edge.answers(Edge.times(6, "g5000;") + "o5;", x -> x.thirsty(1), 31);
+        // Behind 99 the first DRINKS, the second SITS, the third STANDS.
+        Edge.answers("g3908;g3900;g3901;", x -> x.behind(0, 99, 0), 2);
+        Edge.answers("g3908;g3900;g3901;", x -> x.behind(1, 99, 0), 0);
+        Edge.answers("g3908;g3900;g3901;", x -> x.behind(2, 99, 0), 1);
+        Edge.answers("g3908;g3900;g3901;", x -> x.thirsty(1), 7);
         Edge.answers("g5000;", x -> x.thirsty(1), 1);
         Edge.answers("", x -> x.thirsty(1), 0);
     }

@@ -17,6 +17,7 @@ final class OtherwiseEdges {
         // Sitting on, both never are GONE: each is sooner by rising.
         Edge.answers("g5000;g5000;", x -> x.two(0, 1), 11);
         Edge.answers("g3111;g1711;g0200;", x -> x.two(0, 1), -9);
+        Edge.answers("g3111;g1711;g0200;", x -> x.two(1, 0), -9);
         // As the HASTY one rises, 99 is sooner for the AUNT than never.
         Edge.answers(HASTY_AND_AUNT, x -> x.two(1, 0), 10);
         Edge.answers(HASTY_AND_AUNT, x -> x.two(0, 1), 1);
@@ -118,10 +119,26 @@ final class OtherwiseEdges {
         lookIs("g0000;o0;", 0, 0, 1);
         // The HASTY one alone DRINKS behind 1; is GONE behind 2, as the CURATE DRINKS.
         lookIs("g0000;", 0, 2, 3);
+        // His cup is empty behind 1: as a CURATE he SITS then, as an AUNT he DRINKS still, else he is GONE.
+        lookIs("g0902;r0;m01;", 0, 1, 3);
+        // Behind 4 GUEST alone STANDS; CURATE and AUNT DRINK, STILL and CRAY SIT, HASTY is GONE.
+        lookIs("g0909;g3828;", 0, 4, 4);
         // Behind 30 all four STATES: GUEST and HASTY are GONE, CURATE STANDS, STILL DRINKS, AUNT and CRAY SIT.
         lookIs("g3407;g1903;", 1, 30, 4);
         // Behind 31, which is not looked at, there would be four; behind 5 there are three.
         lookIs("g3919;g2802;", 0, 5, 3);
+    }
+
+    @Says("behind which his STATE by KINDS is most unlike")
+    static void lookAgain() {
+        // What was seen of one, behind 0 or behind 30, is not held against another.
+        PouredForLeaving x = Edge.of("g0000;g0000;o1;");
+        Edge.due("look(0, 1)", x.look(0, 1), 3);
+        Edge.due("look(1, 1)", x.look(1, 1), 1);
+        PouredForLeaving y = Edge.of("g3407;g1903;");
+        Edge.due("look(1, 0)", y.look(1, 0), 30);
+        Edge.due("look(0, 0)", y.look(0, 0), 3);
+        Edge.due("look(0, 1)", y.look(0, 1), 3);
     }
 
     private static void lookIs(String house, int guest, int n, int many) {

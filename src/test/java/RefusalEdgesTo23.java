@@ -1,6 +1,6 @@
 /** Boundary cases in the sections of promises 1 to 23: refused calls, and what there is none of. */
-final class RefusalEdges {
-    private RefusalEdges() {
+final class RefusalEdgesTo23 {
+    private RefusalEdgesTo23() {
     }
 
     @Says(promise = 1, value = "No GUESTS, one CUP.")
@@ -134,11 +134,13 @@ final class RefusalEdges {
     @Says(promise = 10, value = "-4 below 1;")
     static void minutesBelow() {
         Edge.below(1, (x, n) -> x.minutes(n));
+        Edge.answers(Edge.TWO + "m02;", x -> x.minutes(1), 1);
     }
 
     @Says(promise = 10, value = "-6 (60; MINUTE above 999).")
     static void minutesAbove() {
         Edge.above(60, (x, n) -> x.minutes(n));
+        Edge.answers(Edge.TWO + "g5000;", x -> x.minutes(60), 2);
         String late = Edge.times(16, "m60;");
         Edge.refused(late, x -> x.minutes(40), -6);
         Edge.answers(late, x -> x.minutes(39), 0);

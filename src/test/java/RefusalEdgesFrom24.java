@@ -1,6 +1,6 @@
 /** Boundary cases in the sections of promises 24 to 47: refused calls, and what there is none of. */
-final class RefusalEdgesOn {
-    private RefusalEdgesOn() {
+final class RefusalEdgesFrom24 {
+    private RefusalEdgesFrom24() {
     }
 
     @Says(promise = 24, value = "-1;")
