@@ -68,6 +68,11 @@ final class MindEdges {
         Edge.due("STATE behind 100", y.behind(1, 100, 0), -6);
         Edge.due("STATE behind -1", y.behind(1, -1, 0), -4);
         Edge.due("no MINUTE goes by", y.count(1), 0);
+        // In mind MINUTE is no bound.
+        PouredForLeaving z = Edge.of(Edge.times(16, "m60;") + "m39;g0002;");
+        Edge.due("MINUTE", z.count(1), 999);
+        Edge.due("HAD behind 3", z.behind(0, 3, 2), 0);
+        Edge.due("HAD behind 4", z.behind(0, 4, 2), 1);
     }
 
     @Says("how many SIT, STAND, DRINK, are GONE")
@@ -123,7 +128,7 @@ final class MindEdges {
         Edge.answers(Edge.TWO + "u3;", x -> x.gone(0), 1);
         Edge.answers(SIX + "o5;o3;", x -> x.gone(0), 3);
         Edge.answers("g5000;", x -> x.gone(0), -9);
-        // Three AUNTS keep one another waiting: the first of them is GONE behind 99; of the others behind 100.
+        // Three AUNTS keep one another waiting: the first to be GONE is so behind 99; of the others behind 100.
         Edge.answers("g3800;g3909;g3906;", x -> x.leaves(0), 99);
         Edge.answers("g3800;g3909;g3906;", x -> x.gone(0), 0);
         Edge.answers("g3902;g3901;g3907;m05;", x -> x.gone(0), -9);
@@ -163,7 +168,7 @@ final class MindEdges {
         Edge.answers("g0003;o0;", x -> x.thirsty(0), 1);
         Edge.answers(Edge.times(6, "g5000;"), x -> x.thirsty(0), 63);
         Edge.answers("", x -> x.thirsty(0), 0);
-        // One HAD a cup, and never DRINKS again, as the other's is not free till he has lost PATIENCE.
+        // The first HAD a cup, and slips out before he DRINKS again.
         Edge.answers("g1302;m03;g0029;m02;o0;", x -> x.thirsty(0), 0);
     }
 
