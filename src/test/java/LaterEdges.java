@@ -269,6 +269,8 @@ final class LaterEdges {
         Edge.answers("g2930;", x -> x.bestOf(0, 1), 22);
         Edge.answers("g2000;", x -> x.bestOf(0, 1), 13);
         Edge.answers("g1930;g3905;", x -> x.bestOf(0, 1), 28);
+        // With 29 and 30 it is 30 behind 1, as much as the HASTY one has: he is first, and GONE behind 16; else behind 19.
+        Edge.answers("u1;g2930;g4330;", x -> x.bestOf(0, 1), 29);
         Edge.answers("g5000;", x -> x.bestOf(0, 1), -9);
         Edge.answers("g0030;o0;", x -> x.bestOf(0, 1), 0);
     }
